@@ -989,6 +989,9 @@ public final class PromiseTest {
         x = landOf("h12 h12 m010");
         due("the least", x.fewest(), 1);
         due("the least one", x.asked(), 2);
+        x = landOf("h01234 h01234 m010");
+        due("any of all", x.fewest(), 1);
+        due("the least of all", x.asked(), 1);
         x = landOf("h0 h0 h1 h1 m230");
         due("cut off ones don't count", x.fewest(), 1);
         due("the other ones do", x.asked(), 2);
