@@ -29,7 +29,7 @@ public final class FaceTest {
     };
     private static final String[] CONSTANTS = {"BAD=-1", "FULL=-2", "FINDING=-3", "STATE=-4", "SPENT=-6", "NONE=-9"};
     private static final String[] WORDS_RULED_OUT = {
-        "throw", "throws", "try", "catch", "finally", "synchronized", "assert", "package", "while", "do",
+        "throw", "throws", "try", "catch", "finally", "synchronized", "assert", "package",
         "volatile", "transient", "native", "strictfp", "hashCode", "toString",
     };
 
@@ -138,7 +138,7 @@ public final class FaceTest {
         }
     }
 
-    /** All numbers of calls with hard arguments in all orders of magnitude: none may throw. */
+    /** Each call with arguments at and beyond the edges, with a LAND and without: none may throw. */
     private static void neverThrows() throws ReflectiveOperationException {
         int[] hard = {0, 1, -1, 2, 3, 6, 7, 31, 32, 40, 41, 99, 100, Integer.MAX_VALUE, Integer.MIN_VALUE};
         java.util.Random random = new java.util.Random(7);
