@@ -655,6 +655,14 @@ public final class PromiseTest {
         x.give(0, 2);
         due("hands", x.hands(0, 5), 3);
         dueRow(x, "hands", 5, 0, 1, 2);
+        BlindPost all = landOf("h0 h h h h h h0 m010 m121 m232 m343 m454 m565");
+        all.send(0, 6, 1);
+        for (int next = 1; next <= 6; next++) {
+            due("given to " + next, all.give(0, next), next == 6 ? 1 : 0);
+            all.hours(1);
+        }
+        due("all seven", all.hands(0, 1), 7);
+        dueRow(all, "all seven", 1, 0, 1, 2, 3, 4, 5, 6);
         due("below 0", x.hands(-1, 0), BAD);
         due("no row", x.hands(0, 6), BAD);
         due("no row below", x.hands(9, -1), BAD);
@@ -775,6 +783,9 @@ public final class PromiseTest {
         due("no hand", x.way(-1, 0, 1, 0), BAD);
         due("no tongues", x.way(0, 1, 0, 0), BAD);
         due("tongues 32", x.way(0, 1, 32, 0), BAD);
+        BlindPost all = landOf("hhhhhhh m010 m120 m230 m340 m450 m560");
+        due("over all", all.way(6, 0, 1, 2), 5);
+        dueRow(all, "over all", 2, 6, 5, 4, 3, 2, 1, 0);
         x = landOf("h u h h h m010 m140 m020 m230 m340 m310");
         due("by a mute", x.way(0, 4, 1, 0), 1);
         dueRow(x, "by a mute", 0, 0, 1, 4);
