@@ -6,7 +6,8 @@ import java.util.Random;
 /** Long runs of calls by chance (of fixed seeds), compared with a slow model that goes over all WAYS one by one. */
 public final class ModelTest {
     private static final int BAD = -1, FULL = -2, FINDING = -3, STATE = -4, NONE = -9;
-    private static final int RUNS = 3000, CALLS = 400;
+    /** An object is used for at most 512 calls: a LAND anew takes up to 83 of them, a turn without that up to 16. */
+    private static final int RUNS = 12000, MOST_CALLS = 512, LAND_CALLS = 100, TURN_CALLS = 16;
 
     /** A LAND as the document tells it, in the Java library's terms. */
     private static final class Land {
@@ -806,6 +807,7 @@ public final class ModelTest {
     private final Model model = new Model();
     private final BlindPost post = new BlindPost();
     private final StringBuilder log = new StringBuilder();
+    private int calls = 0;
 
     private ModelTest(long seed) {
         random = new Random(seed);
@@ -829,6 +831,7 @@ public final class ModelTest {
     }
 
     private boolean same(String call, long got, long want) {
+        calls++;
         log.append(call).append(" = ").append(got).append('\n');
         if (got != want) {
             log.append("  due is ").append(want).append('\n');
@@ -870,6 +873,7 @@ public final class ModelTest {
         for (int i = 0; i < text.length(); i++) {
             int v = text.charAt(i);
             fine &= post.put(t, i, v) == model.put(t, i, v);
+            calls++;
         }
         log.append("  written: ").append(text).append('\n');
         fine &= same("fault(" + t + ")", post.fault(t), model.fault(t));
@@ -918,7 +922,7 @@ public final class ModelTest {
             case 6: return same("text(" + k + ", " + v + ")", post.text(k, v), model.text(k, v));
             case 7: return same("put(" + k + ", " + h + ", " + v + ")", post.put(k, h, v), model.put(k, h, v));
             case 8: return same("fault(" + k + ")", post.fault(k), model.fault(k));
-            case 9: return random.nextInt(8) != 0 || writeLand();
+            case 9: return random.nextInt(8) != 0 || calls > MOST_CALLS - LAND_CALLS || writeLand();
             case 10:
             case 11: return same("hand(" + a + ", " + k + ")", post.hand(a, k), model.hand(a, k));
             case 12:
@@ -1006,13 +1010,14 @@ public final class ModelTest {
 
     private boolean run() {
         boolean fine = writeLand();
-        for (int call = 0; fine && call < CALLS; call++) {
-            fine = callOne()
-                && same("asked()", post.asked(), model.asked)
-                && same("finding()", post.finding(), model.finding)
-                && (call % 8 != 0 || same("digest()", post.digest(), model.digest()));
+        for (int turn = 0; fine && calls < MOST_CALLS - TURN_CALLS; turn++) {
+            fine = callOne();
+            fine &= turn % 4 != 0 || same("asked()", post.asked(), model.asked);
+            fine &= turn % 4 != 1 || same("finding()", post.finding(), model.finding);
+            fine &= turn % 8 != 2 || same("digest()", post.digest(), model.digest());
         }
-        return fine && same("digest()", post.digest(), model.digest());
+        fine = fine && same("digest()", post.digest(), model.digest());
+        return fine && same("calls beyond those promised", Math.max(0, calls - MOST_CALLS), 0);
     }
 
     public static void main(String[] args) {
