@@ -1050,7 +1050,8 @@ public final class BlindPost {
                     int among = Integer.bitCount(takers);
                     if (among > 0) {
                         lot = lot * LOT_FACTOR % LOT_PRIME;
-                        came += pass(letters[k], memberAt(takers, (int) (lot % among))) ? 1 : 0;
+                        int next = memberAt(takers, (int) (lot % among));
+                        came += next != NONE && pass(letters[k], next) ? 1 : 0;
                     }
                 }
                 hour++;

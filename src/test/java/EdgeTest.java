@@ -498,6 +498,7 @@ public final class EdgeTest {
         };
         no(apart, "way without any", NONE, x -> x.way(0, 1, 1, 0));
         no(apart, "way without any, no ROW there", NONE, x -> x.way(0, 1, 1, 5));
+        no(apart, "BAD ahead of NONE", BAD, x -> x.way(0, 1, 1, 6));
         no(apart, "soon without any", NONE, x -> x.soon(0, 1, 1, 0));
         no(apart, "tongue without any", NONE, x -> x.tongue(0, 1, 0));
         no(apart, "parts without any", NONE, x -> x.parts(0, 1, 1, 0));
@@ -1132,7 +1133,7 @@ public final class EdgeTest {
         due("in another HOUR", x.give(0, 2), 1);
     }
 
-    private static void mutesAndLearners() {
+    private static void mutesBetween() {
         says("A MUTE between takes it from who sends it alone (one to whom it is takes it from anybody, a MUTE, too)");
         BlindPost x = landOf("h0 u0 u h h0 u0 m010 m121 m031 m322 m132 m353 m153");
         x.send(0, 4, 1);
@@ -1153,8 +1154,11 @@ public final class EdgeTest {
         due("on by another one", x.give(2, 3), 0);
         x.hours(2);
         due("a MUTE to whom it is from another one", x.give(2, 5), 1);
+    }
+
+    private static void learnersAndOthers() {
         says("A LEARNER (SPY, too) who gives one on KNOWS its TONGUES then.");
-        x = landOf("h0134 l2 y1 h0134 c m010 m121 m232 m013 m042 m412");
+        BlindPost x = landOf("h0134 l2 y1 h0134 c m010 m121 m232 m013 m042 m412");
         x.send(0, 3, 25);
         x.give(0, 1);
         due("who has it yet", told(x, x.hand(1, 1)), 4);
@@ -1614,8 +1618,11 @@ public final class EdgeTest {
         x = landOf("h h u h m010 m120 m230");
         due("a MUTE second, whatever is forgotten", x.forget(0, 3, 1), NONE);
         due("a MUTE just behind the first", x.forget(1, 3, 1), 0);
+    }
+
+    private static void waysOfOnePrice() {
         says("of alike ways the first by numbers, the one of fewer hands first");
-        x = landOf("h h0 h0 h0 h h h m010 m160 m020 m260 m030 m360");
+        BlindPost x = landOf("h h0 h0 h0 h h h m010 m160 m020 m260 m030 m360");
         due("the first by numbers", x.forget(0, 6, 1), 1);
         due("who", x.asked(), 2);
         x.off(0);
@@ -1678,8 +1685,11 @@ public final class EdgeTest {
         x.teach(2, 4, 1);
         due("in a TONGUE that they don't have in common: no pair", x.cutOff(), 0);
         due("of two", x.asked(), 2);
+    }
+
+    private static void partsOfPairs() {
         says("as a part of all, in lowest terms");
-        x = landOf("c0 c0 c0 c0 c0 c0 c0 m010 m230 m450");
+        BlindPost x = landOf("c0 c0 c0 c0 c0 c0 c0 m010 m230 m450");
         due("upper of 6 / 42", x.upper(), 1);
         due("lower of 6 / 42", x.lower(), 7);
         x = landOf("c0 c0 c0 c0 c0 c0 c0 m010 m120 m230");
@@ -1747,8 +1757,11 @@ public final class EdgeTest {
         due("there, not back, by the other one", x.worth(2), 1);
         due("unmet: no WAY, none", landOf("h0 h h0").worth(1), 0);
         due("one HAND", landOf("h0").worth(0), 0);
+    }
+
+    private static void fewestTongues() {
         says("The fewest TONGUES (a set) such that all who KNOW a TONGUE in common, and are not CUT OFF, can WRITE so in one of these; which (bits; the least)");
-        x = landOf("h01234 h0 h1 h2 h3 h4 m010 m020 m030 m040 m050");
+        BlindPost x = landOf("h01234 h0 h1 h2 h3 h4 m010 m020 m030 m040 m050");
         due("all five", x.fewest(), 5);
         due("which", x.asked(), 31);
         x.off(4);
@@ -1925,8 +1938,11 @@ public final class EdgeTest {
                 due("seed " + seed + ", letter " + k, told(x, x.at(1, 1)), 1 + number % 5);
             }
         }
+    }
+
+    private static void daysOfLetters() {
         says("for each LETTER on its way: not for those that came there, nor those given in this HOUR already");
-        x = landOf("h0 h h h0 m010 m020 m030 m131 m231");
+        BlindPost x = landOf("h0 h h h0 m010 m020 m030 m131 m231");
         x.send(0, 3, 1);
         x.send(0, 3, 1);
         x.send(0, 3, 1);
@@ -2148,7 +2164,8 @@ public final class EdgeTest {
         carriersOfLetters();
         sendingLetters();
         givingLetters();
-        mutesAndLearners();
+        mutesBetween();
+        learnersAndOthers();
         hoursThatGoBy();
         wayOfLetters();
         landsKept();
@@ -2160,12 +2177,16 @@ public final class EdgeTest {
         waysApart();
         neededHands();
         forgottenTongues();
+        waysOfOnePrice();
         reachedHands();
+        partsOfPairs();
         taughtHands();
         worthOfHands();
+        fewestTongues();
         readersOfLetters();
         knownTongues();
         daysByLots();
+        daysOfLetters();
         daysOfKinds();
         toldByAsked();
         numbersOfThings();
